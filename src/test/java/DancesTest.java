@@ -152,6 +152,13 @@ public final class DancesTest {
         due.is("14 beyond ahead of state", x.loose(41), Due.BEYOND);
         due.is("13 hour stays", x.count(1), 9999);
         due.is("15 thought goes on", x.then(60, 0, 0), 7);
+        RegretPegs y = Due.ball(30, 7);
+        for (int i = 0; i < 166; i++) {
+            y.hours(60);
+        }
+        due.is("14 above", y.loose(40), Due.STATE);
+        due.is("14 to 9999", y.loose(39), 7);
+        due.is("14 hour", y.count(1), 9999);
     }
 
     private static void loose() {

@@ -142,6 +142,11 @@ public final class GuestsTest {
         due.is("7 rue stays", x.ofGuest(0, 2), 40);
         due.is("7 danced stays", x.ofGuest(0, 3), 7);
         due.is("7 was then", x.become(0, 0), 6);
+        for (int km = 0; km < 70; km++) {
+            x.become(0, km);
+            due.is("7 kind and m of " + km, 10 * x.ofGuest(0, 0) + x.ofGuest(0, 1), km);
+        }
+        x.become(0, 0);
         due.is("7 km below", x.become(0, -1), Due.BEYOND);
         due.is("7 km above", x.become(0, 70), Due.BEYOND);
         due.is("7 guest above", x.become(1, 0), Due.BEYOND);

@@ -56,7 +56,12 @@ public final class KeptTest {
         x.restore();
         due.is("36 no text is kept, too", x.count(7), 1);
         RegretPegs y = new RegretPegs();
+        y.tell(0);
         y.image();
+        y.check();
+        y.tell(8);
+        y.restore();
+        due.is("36 the number that waits is the one kept", y.check(), 0);
         Due.text(y, 0, "r");
         y.restore();
         due.is("36 no text", y.law(0, 4, 6, 0), 5);
@@ -131,12 +136,13 @@ public final class KeptTest {
         x.change(1, 2, 0);
         x.change(1, 1, 40);
         x.change(2, 1, 2);
+        x.change(0, 1, 300);
         x.hang(2, 0);
         x.feed(0, 4);
         x.tell(1);
         x.voice(0, 1, 1);
         x.seed(-5);
-        int[] want = {3, 0, 911, 42, 5, 0, 4, 1, 2, -5};
+        int[] want = {3, 0, 911, 342, 5, 0, 4, 1, 2, -5};
         for (int what = 0; what < 10; what++) {
             due.is("39 what " + what, x.count(what), want[what]);
         }

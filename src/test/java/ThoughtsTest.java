@@ -140,6 +140,7 @@ public final class ThoughtsTest {
         alike.change(0, 2, 0);
         due.is("19 whether idle or not", alike.whoDanced(0, 0), 3);
         RegretPegs nobody = new RegretPegs();
+        due.is("19 nobody, missing", nobody.whoDanced(0, 0), Due.NONE);
         nobody.sheet(0, 8, 0);
         due.is("19 nobody", nobody.whoDanced(0, 0), 0);
         due.is("19 nobody, first", nobody.whoDanced(0, 1), Due.NONE);
