@@ -100,15 +100,6 @@ public final class RegretPegs {
         }
     }
 
-    private int replace(int[] row, int guest, int v, int most) {
-        if (!isWithin(v, 0, most)) {
-            return refuse(BEYOND);
-        }
-        int was = row[guest];
-        row[guest] = v;
-        return was;
-    }
-
     public int peg(int peg) {
         return isPeg(peg) ? now.ball.order[peg] : refuse(BEYOND);
     }
@@ -566,6 +557,15 @@ public final class RegretPegs {
     private int refuse(int error) {
         errors[error]++;
         return LOW - error;
+    }
+
+    private int replace(int[] row, int guest, int v, int most) {
+        if (!isWithin(v, 0, most)) {
+            return refuse(BEYOND);
+        }
+        int was = row[guest];
+        row[guest] = v;
+        return was;
     }
 
     private boolean isGuest(int guest) {
