@@ -41,6 +41,15 @@ final class Due {
         return x;
     }
 
+    /** A ball at an HOUR. */
+    static RegretPegs late(int hour, int... kmAndRue) {
+        RegretPegs x = ball(kmAndRue);
+        for (int gone = 0; gone < hour; gone += Math.min(60, hour - gone)) {
+            x.hours(Math.min(60, hour - gone));
+        }
+        return x;
+    }
+
     /** Feeds a text by eight bytes at a time; what the last feed answered. */
     static int feed(RegretPegs x, String text) {
         int answer = 0;
