@@ -51,7 +51,7 @@ public final class RegretPegs {
     /** What is only thought is worked out on these two, so that the ball itself stays. */
     private final Ball thought = new Ball();
     private final Ball firstDanced = new Ball();
-    private final Reader reader = new Reader(now.tape);
+    private final Reader reader = new Reader();
     private final Voices voices = new Voices();
     private final Sheet[] sheets = {new Sheet(), new Sheet(), new Sheet(), new Sheet()};
     private final int[] errors = new int[6];
@@ -149,7 +149,7 @@ public final class RegretPegs {
         if (!isWithin(use, 0, 1)) {
             return refuse(BEYOND);
         }
-        boolean read = reader.reads(now.taped, use);
+        boolean read = reader.reads(now.tape, now.taped, use);
         now.taped = 0;
         if (!read) {
             return -10 - reader.at;
@@ -919,19 +919,17 @@ public final class RegretPegs {
         private static final int COMPARING = 2;
         private static final int INNERMOST = 4;
 
-        private final byte[] tape;
+        /** Its own bytes, so that no other object's row is held here. */
+        private final byte[] bytes = new byte[MOST_BYTES];
         private int length = 0;
         private int use = 0;
         int at = 0;
         int size = 0;
         final int[] code = new int[MOST_BYTES];
 
-        Reader(byte[] tape) {
-            this.tape = tape;
-        }
-
-        boolean reads(int theLength, int theUse) {
-            length = Math.min(theLength, tape.length);
+        boolean reads(byte[] tape, int taped, int theUse) {
+            length = Math.min(taped, MOST_BYTES);
+            System.arraycopy(tape, 0, bytes, 0, length);
             use = theUse;
             at = 0;
             size = 0;
@@ -940,7 +938,7 @@ public final class RegretPegs {
 
         /** The byte ahead; 0, which no part takes, at the end. */
         private int ahead() {
-            return at < length ? tape[at] : 0;
+            return at < length ? bytes[at] : 0;
         }
 
         /** There is room, as each part stands for a byte or more of its own; it is looked at all the same. */

@@ -17,6 +17,7 @@ public final class EdgesOfRowsTest {
         voiceGoesRound();
         traceFirstAndLast();
         traceOfTheLatestVoice();
+        traceOfTheLongestVoice();
         sheetNumbers();
         sheetBits();
         sheetSizes();
@@ -171,6 +172,20 @@ public final class EdgesOfRowsTest {
         x.voice(0, 4, 0);
         due.is("29 a refused one leaves it", x.count(8), 1);
         due.is("29 as it was", x.trace(0), 10);
+    }
+
+    /** "the first 40": no VOICE comes near it; the longest has 9. */
+    private static void traceOfTheLongestVoice() {
+        int[][] bodies = {{1, 2, 1, 4}, {2, 3, 1, 5}, {1, 4, 1, 6}, {1, 2, 2, 5}, {2, 3, 1, 8}, {1, 5, 1, 7}, {1, 2, 3, 9}};
+        for (int kind = 0; kind < 7; kind++) {
+            RegretPegs x = Due.ball(10 * kind, 0);
+            for (int act = 0; act < 4; act++) {
+                x.voice(0, act, 0);
+                due.is("29 BODIES of KIND " + kind + ", act " + act, x.count(8), bodies[kind][act]);
+                due.isTrue("29 the last", x.trace(bodies[kind][act] - 1) > 0);
+                due.is("29 none behind it", x.trace(bodies[kind][act]), Due.NONE);
+            }
+        }
     }
 
     // ---- promise 30

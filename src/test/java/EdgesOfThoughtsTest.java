@@ -32,6 +32,7 @@ public final class EdgesOfThoughtsTest {
         whoDancedByManyPairs();
         whoDancedOfFew();
         whoDancedSizes();
+        whoDancedByFewBits();
         inOrderNowAtSixtyAndNot();
         wrongsNoneToAll();
         wrongsOfPegsApart();
@@ -408,6 +409,17 @@ public final class EdgesOfThoughtsTest {
         x.sheet(0, 0, 3);
         due.is("19 missing", x.whoDanced(0, 0), Due.NONE);
         due.is("19 BEYOND ahead of NONE", x.whoDanced(0, 2), Due.BEYOND);
+    }
+
+    /** "rows of 8, 16, 32 bits": a number of 8 bits is at most 127, as Java's byte; RUE that is more isn't told by it. */
+    private static void whoDancedByFewBits() {
+        for (int rue : new int[] {127, 128, 255, 256, 999}) {
+            for (int bits : new int[] {8, 16, 32}) {
+                RegretPegs x = still(rue, rue);
+                Due.sheet(x, 0, bits, rue, rue);
+                due.is("19 RUE " + rue + " by " + bits + " bits", x.whoDanced(0, 0), bits == 8 && rue > 127 ? 0 : 1);
+            }
+        }
     }
 
     /** "RIGHT: behind how many HOURS (0 to 60) no two PEGS are WRONG first."; "NONE: not by 60." */
