@@ -856,7 +856,7 @@ public final class RegretPegs {
 
         void takeCode(int[] from, int n) {
             System.arraycopy(from, 0, code, 0, MOST_BYTES);
-            size = n;
+            size = Math.min(n, MOST_BYTES);
         }
 
         int give(int a, int b, int c) {
@@ -871,8 +871,10 @@ public final class RegretPegs {
             for (int i = 0; i < size; i++) {
                 int part = code[i];
                 if (part >= -3) {
-                    values[open] = valueOf(part, a, b, c);
-                    open++;
+                    if (open < MOST_BYTES) {
+                        values[open] = valueOf(part, a, b, c);
+                        open++;
+                    }
                 } else if (part == -'!') {
                     if (open >= 1) {
                         values[open - 1] = values[open - 1] == 0 ? 1 : 0;

@@ -5,6 +5,8 @@ import java.lang.reflect.Method;
 import java.lang.reflect.Modifier;
 import java.nio.file.Files;
 import java.nio.file.Path;
+import java.util.ArrayList;
+import java.util.List;
 import java.util.Set;
 import java.util.TreeSet;
 import java.util.regex.Matcher;
@@ -24,6 +26,8 @@ public final class FaceTest {
         methods(face);
         members();
         words(source);
+        made(source);
+        statics();
         nested(face);
         due.end();
     }
@@ -76,6 +80,31 @@ public final class FaceTest {
             due.isTrue("no " + word, !pattern.matcher(code).find());
         }
         due.isTrue("signs 1 to 127 alone", source.chars().allMatch(c -> c > 0 && c < 128));
+    }
+
+    /** All calls of a run share one room: rows are made by constructors alone, so only a final field's line makes one. */
+    private static void made(String source) {
+        for (String line : source.split("\n")) {
+            if (Pattern.compile("\\bnew\\b|\\.clone\\(|Arrays\\.").matcher(line.replaceAll("//.*", "")).find()) {
+                due.isTrue("made by a constructor: " + line.trim(),
+                    line.matches(" +(private )?final [\\w\\[\\]]+ \\w+ = (new .*|\\{new .*\\});"));
+            }
+        }
+    }
+
+    /** LANGUAGE.md, 5: static fields are final, of int, long, boolean, char, String, or rows of int, long, char, byte. */
+    private static void statics() {
+        Set<String> types = Set.of("int", "long", "boolean", "char", "String", "int[]", "long[]", "char[]", "byte[]");
+        List<Class<?>> classes = new ArrayList<>(List.of(RegretPegs.class.getDeclaredClasses()));
+        classes.add(RegretPegs.class);
+        for (Class<?> one : classes) {
+            for (Field field : one.getDeclaredFields()) {
+                if (Modifier.isStatic(field.getModifiers())) {
+                    due.isTrue(field + " is a constant",
+                        Modifier.isFinal(field.getModifiers()) && types.contains(field.getType().getSimpleName()));
+                }
+            }
+        }
     }
 
     private static void nested(Set<String> face) {
